@@ -689,9 +689,12 @@ public final class WarmHouses {
         private int agesSet(int lowest, int highest) {
             int set = 0;
             for (int thing = 0; thing < THINGS; thing++) {
-                int age = ageOf(thing);
-                if (age != NONE && age >= lowest && age <= highest) {
-                    set |= 1 << thing;
+                int spot = spots[thing];
+                if (spot != NONE) {
+                    int age = ages[spot / PLACES];
+                    if (age >= lowest && age <= highest) {
+                        set |= 1 << thing;
+                    }
                 }
             }
             return set;
