@@ -27,6 +27,13 @@ public final class Due {
         is(what, stands ? 1 : 0, 1);
     }
 
+    public void same(String what, String got, String want) {
+        holds(what, got.equals(want));
+        if (!got.equals(want)) {
+            System.out.println("seen:\n" + got + "due:\n" + want);
+        }
+    }
+
     public boolean allRight() {
         return wrong == 0;
     }
