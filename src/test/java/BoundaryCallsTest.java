@@ -239,6 +239,8 @@ public final class BoundaryCallsTest {
         due.is("it", x.thingOf(0, 5), NOT_FOUND);
         due.is("not the one ahead", x.thingOf(0, 4), 1);
         due.is("not the one behind", x.thingOf(0, 6), 1);
+        due.is("nor one of another thing", x.thingOf(1, 4), 0);
+        due.is("the last one of the last thing", Scene.after("30n s29,2,7 u29,2").thingOf(29, 6), NOT_FOUND);
 
         sentences.test(part, "`thing`: number of a thing that lives");
         refuses(THREE_LIVE + " s0,0,0 s2,0,2", "loosen(., 0)", (y, thing) -> y.loosen(thing, 0), NO_THINGS);
@@ -433,6 +435,7 @@ public final class BoundaryCallsTest {
         due.is("twice", Scene.after("n h0,0 w0 w1").thingOf(0, 9), 2);
         due.is("not more than twice", Scene.after("n h0,0 w0 w1 w1 w0").thingOf(0, 9), 2);
         due.is("a pinned one does not move", Scene.after("n h0,0 p0 w0 w1").thingOf(0, 9), 0);
+        due.is("the last thing of all", Scene.after("29n f n h0,29 w0 w1").thingOf(29, 9), 2);
         due.is("a move in its house", Scene.after("2n p0 h0,1 w0").thingOf(1, 9), 1);
         due.is("an undone winter", Scene.after("n h0,0 w0 w1 ^").thingOf(0, 9), 1);
         due.is("of one that is gone", Scene.after("n h0,0 w0 w1 l0 f").thingOf(0, 9), 2);

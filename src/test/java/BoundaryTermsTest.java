@@ -486,7 +486,8 @@ public final class BoundaryTermsTest {
         due.is("29 of 30", x.winter(0), 29);
         due.is("one lives", x.houseOf(6, 2), set(7));
         due.is("how many live", x.count(1), 1);
-        due.is("needed by one that is gone is not needed", Scene.after("2n s0,0,1 w0").count(1), 0);
+        due.is("also those that are tied to one another", Scene.after("3n s0,0,1 s1,0,0 s2,0,2 w0").count(1), 0);
+        due.is("also those that are tied to survivors", Scene.after("3n h0,0 s1,0,0 s2,0,0 w0").count(1), 1);
         x = Scene.after(Scene.EACH_AGE + " h0,2");
         due.is("one that it does not concern is not gone", x.winter(0), 0);
         due.is("forgotten as it is", x.thingOf(1, 0), 1);
@@ -503,6 +504,7 @@ public final class BoundaryTermsTest {
 
         sentences.test(part, "A house without things is free.");
         due.is("all houses", Scene.after("30n w0").count(6), 8);
+        due.is("the last house", Scene.after(Scene.warm(7) + "5n w0").houseOf(7, 0), NOT_FOUND);
         due.is("one thing is enough", Scene.after("30n p29 w0").houseOf(5, 0), 1);
         due.is("the others are free", Scene.after("30n p29 w0").count(6), 7);
     }
@@ -520,6 +522,15 @@ public final class BoundaryTermsTest {
         due.is("ten", Scene.after(ten.toString()).winter(0), 20);
         changesNothing(ten + " h1,29", "winter(0) of eleven", x -> x.winter(0), NOT_POSSIBLE);
         due.is("eleven, but one is pinned", Scene.after(ten + " h1,29 p29").winter(0), 19);
+        // Eight houses of the age 1, no thing is pinned, 3 is held: no room of the age 2.
+        StringBuilder ones = new StringBuilder();
+        for (int i = 0; i < 8; i++) {
+            ones.append("n p").append(i).append(" w0 ");
+        }
+        ones.append("o0 o1 o2 o3 o4 o5 o6 o7 h0,3");
+        changesNothing(ones.toString(), "winter(1) of the age 1", x -> x.winter(1), NOT_POSSIBLE);
+        due.is("winter(0) does not concern it", Scene.after(ones.toString()).winter(0), 0);
+        due.is("with a house that becomes 2 for a pinned one", Scene.after(ones + " p5 w1").thingOf(3, 1), 51);
         due.is("without survivors no room is needed", Scene.after(Scene.NO_ROOM + " l0").winter(0), 2);
         due.is("nor for pinned ones", Scene.after(Scene.NO_ROOM + " p8").winter(0), 1);
     }
@@ -531,6 +542,8 @@ public final class BoundaryTermsTest {
         sentences.test(part, "all things that are forgotten are gone");
         due.is("none came", new WarmHouses().full(), 0);
         due.is("all of 30", Scene.after("30n").full(), 30);
+        due.is("also those that are tied to one another", Scene.after("3n s0,0,1 s1,0,0 s2,0,2").full(), 3);
+        due.is("also those that are tied to needed ones", Scene.after("3n h0,0 s1,0,0 s2,0,0").full(), 2);
         due.is("none of 5", Scene.after("5n h0,0 s0,0,1 s1,0,2 p3 s3,2,4").full(), 0);
         due.is("of all ages", Scene.after(Scene.EACH_AGE).full(), 3);
         due.is("a noted string is no need", Scene.after(Scene.EACH_AGE + " s0,0,1 s1,0,2 h0,1").full(), 1);
@@ -547,6 +560,7 @@ public final class BoundaryTermsTest {
 
         sentences.test(part, "A house without things is free.");
         due.is("six houses", Scene.after("30n f").count(6), 8);
+        due.is("the last house", Scene.after(Scene.warm(7) + "5n f").houseOf(7, 0), NOT_FOUND);
         due.is("one thing is enough", Scene.after("30n h0,29 f").houseOf(5, 0), 0);
         due.is("of the age 2", Scene.after(Scene.EACH_AGE + " f").houseOf(0, 0), NOT_FOUND);
     }
@@ -660,8 +674,9 @@ public final class BoundaryTermsTest {
 
         sentences.test(part, "2 if there is no such hand, thing that lives, string or age");
         // 0 is gone, 1 lives, 2 did not come.
-        for (String text : new String[] {"h4,1;", "h99,1;", "h0,2;", "h0,0;", "h0,30;", "h0,33;", "l4;", "l99;", "s2,0,1;", "s0,0,1;",
-            "s1,3,1;", "s1,99,1;", "s1,0,2;", "s1,0,0;", "u2,0;", "u0,0;", "u1,3;", "p2;", "p0;", "p33;", "w2;", "w99;"}) {
+        for (String text : new String[] {"h4,1;", "h99,1;", "h0,2;", "h0,0;", "h0,30;", "h0,33;", "l4;", "l99;", "s2,0,1;",
+            "s0,0,1;", "s1,3,1;", "s1,99,1;", "s1,0,2;", "s1,0,0;", "u2,0;", "u0,0;", "u1,3;", "p2;", "p0;", "p33;", "w2;",
+            "w99;"}) {
             faults("2n h0,1 f", text, 0, 2);
         }
         faults(Scene.NO_ROOM, "w2;", 0, 2);
@@ -695,8 +710,8 @@ public final class BoundaryTermsTest {
         {"", "w1"}, {"n h0,0 s0,0,0", "w0"}, {"n p0", "w1"}, {"n s0,0,0", "w0"}, {"", "f"}, {"n s0,0,0", "f"}, {"n p0", "f"}};
 
     private static void changes() {
-        sentences.test("Changes and errors", "The changes are the calls of thing, hold, release, tie, loosen, pin, unpin, winter, "
-            + "full and play that return no error.");
+        sentences.test("Changes and errors", "The changes are the calls of thing, hold, release, tie, loosen, pin, unpin, "
+            + "winter, full and play that return no error.");
         for (String[] row : CHANGES) {
             WarmHouses x = Scene.after(row[0]);
             int states = x.count(12);
@@ -729,13 +744,21 @@ public final class BoundaryTermsTest {
         due.is("not five", Scene.after("5n").count(12), 4);
         due.is("four again behind a step back", Scene.after("5n ^ 2n").count(12), 4);
         due.is("all four can be restored", Scene.after("4n ^ ^ ^ ^").count(0), 0);
+        WarmHouses x = Scene.after("4n 'n;x'");
+        x.hold(4, 0);
+        x.survivors(1, 3);
+        x.fault(0);
+        x.play();
+        Scene.go(x, "^ ^ ^ ^");
+        due.is("also behind calls that are no changes", x.count(0), 0);
+        due.is("the oldest one is as it was", x.houseOf(0, 0), NOT_FOUND);
 
         sentences.test(part, "each change records everything before it but the text");
         for (String[] row : CHANGES) {
-            WarmHouses x = Scene.after(row[0] + " " + row[1] + " ^");
+            x = Scene.after(row[0] + " " + row[1] + " ^");
             due.same("undo() of " + row[1], Scene.lookAtAll(x), Scene.lookAtAll(Scene.after(row[0])));
         }
-        WarmHouses x = Scene.after("'n;n;'");
+        x = Scene.after("'n;n;'");
         x.play();
         Scene.write(x, "n;");
         due.is("undo() of play()", x.undo(), 0);
@@ -795,7 +818,8 @@ public final class BoundaryTermsTest {
             new Call("pin(6)", x -> x.pin(6), INVALID), new Call("pin(4)", x -> x.pin(4), NOT_POSSIBLE),
             new Call("unpin(6)", x -> x.unpin(6), INVALID), new Call("unpin(3)", x -> x.unpin(3), NOT_POSSIBLE),
             new Call("winter(2)", x -> x.winter(2), INVALID), new Call("thingOf(6, 0)", x -> x.thingOf(6, 0), INVALID),
-            new Call("thingOf(0, 10)", x -> x.thingOf(0, 10), INVALID), new Call("thingOf(0, 5)", x -> x.thingOf(0, 5), NOT_FOUND),
+            new Call("thingOf(0, 10)", x -> x.thingOf(0, 10), INVALID),
+            new Call("thingOf(0, 5)", x -> x.thingOf(0, 5), NOT_FOUND),
             new Call("houseOf(8, 0)", x -> x.houseOf(8, 0), INVALID), new Call("houseOf(7, 0)", x -> x.houseOf(7, 0), NOT_FOUND),
             new Call("handOf(4)", x -> x.handOf(4), INVALID), new Call("handOf(1)", x -> x.handOf(1), NOT_FOUND),
             new Call("noteAt(-1)", x -> x.noteAt(-1), INVALID), new Call("noteAt(1)", x -> x.noteAt(1), NOT_FOUND),
@@ -842,7 +866,8 @@ public final class BoundaryTermsTest {
 
     private static void constants() {
         String part = "Changes and errors";
-        sentences.test(part, "`INVALID_ARGUMENT = -1000001`: An argument is out of its range, or there is no such thing that lives.");
+        sentences.test(part, "`INVALID_ARGUMENT = -1000001`: An argument is out of its range, or there is no such thing that "
+            + "lives.");
         due.is("INVALID_ARGUMENT", WarmHouses.INVALID_ARGUMENT, -1000001);
         due.is("out of its range", new WarmHouses().winter(2), -1000001);
         due.is("no such thing", new WarmHouses().pin(0), -1000001);
